@@ -448,7 +448,7 @@ public final class AreaTree {
             holder[thing] = holding;
         }
 
-        /** Leaves the holder's rectangle as it is: who takes several away fits it once. */
+        /** Leaves the holder's rectangle as it is, since the holder may go next and need none. */
         void detach(int thing) {
             int holding = holder[thing];
             for (int i = indexIn(holding, thing) + 1; i < size[holding]; i++) {
@@ -637,10 +637,11 @@ public final class AreaTree {
             store.attach(first, takeLeft(firstSeed));
             store.attach(second, later);
             for (int turn = 0; turn < left.length && leftCount > 0; turn++) {
+                // A part that needs all that are left still does so when it has one of them.
                 if (needsAll(first)) {
-                    giveAll(first);
+                    store.attach(first, takeLeft(0));
                 } else if (needsAll(second)) {
-                    giveAll(second);
+                    store.attach(second, takeLeft(0));
                 } else {
                     int thing = takeLeft(mostDecided(first, second));
                     store.attach(fitting(thing, first, second), thing);
@@ -681,13 +682,6 @@ public final class AreaTree {
 
         private boolean needsAll(int part) {
             return store.size[part] + leftCount <= store.least;
-        }
-
-        private void giveAll(int part) {
-            for (int i = 0; i < leftCount; i++) {
-                store.attach(part, left[i]);
-            }
-            leftCount = 0;
         }
 
         private int mostDecided(int first, int second) {
