@@ -18,7 +18,9 @@ public final class AreaTree {
     /** Rectangles that callers give have slots too, so that they are compared like all others. */
     private static final int WINDOW = FIRST_NODE + MOST_NODES;
     private static final int ASKED = WINDOW + 1;
-    private static final int SLOTS = ASKED + 1;
+    /** Stands in where no slot is to be had, so that every slot is an index whatever happens. */
+    private static final int NOWHERE = ASKED + 1;
+    private static final int SLOTS = NOWHERE + 1;
 
     private static final int NO = -1;
     private static final int ENTRY_LEVEL = -1;
@@ -187,7 +189,7 @@ public final class AreaTree {
             case 5:
                 return store.size[slot] == 0 ? BAD : store.side(slot, what - 2);
             case 6:
-                return slot == tree.root ? NONE : store.name[store.holder[slot]];
+                return store.holder[slot] == NO ? NONE : store.name[store.holder[slot]];
             default:
                 return BAD;
         }
@@ -265,10 +267,12 @@ public final class AreaTree {
 
         int newEntry(int like) {
             int slot = spareEntry;
-            if (slot == NO) {
+            if (slot != NO) {
+                spareEntry = holder[slot];
+            } else if (entryTop < MOST_ENTRIES) {
                 slot = entryTop++;
             } else {
-                spareEntry = holder[slot];
+                return NOWHERE;
             }
             entries++;
             level[slot] = ENTRY_LEVEL;
@@ -286,10 +290,12 @@ public final class AreaTree {
 
         int newNode(int itsLevel) {
             int slot = spareNode;
-            if (slot == NO) {
+            if (slot != NO) {
+                spareNode = holder[slot];
+            } else if (nodeTop < FIRST_NODE + MOST_NODES) {
                 slot = nodeTop++;
             } else {
-                spareNode = holder[slot];
+                return NOWHERE;
             }
             level[slot] = itsLevel;
             size[slot] = 0;
@@ -410,11 +416,15 @@ public final class AreaTree {
         }
 
         int thingAt(int holding, int i) {
-            return rows[(holding - FIRST_NODE) * width + i];
+            int at = (holding - FIRST_NODE) * width + i;
+            return at >= 0 && at < rows.length ? rows[at] : NOWHERE;
         }
 
         private void placeAt(int holding, int i, int thing) {
-            rows[(holding - FIRST_NODE) * width + i] = thing;
+            int at = (holding - FIRST_NODE) * width + i;
+            if (at >= 0 && at < rows.length) {
+                rows[at] = thing;
+            }
         }
 
         private int indexIn(int holding, int thing) {
@@ -436,7 +446,9 @@ public final class AreaTree {
 
         void attachBehind(int sibling, int thing) {
             int holding = holder[sibling];
-            attachAt(holding, indexIn(holding, sibling) + 1, thing);
+            if (holding != NO) {
+                attachAt(holding, indexIn(holding, sibling) + 1, thing);
+            }
         }
 
         private void attachAt(int holding, int index, int thing) {
@@ -451,6 +463,9 @@ public final class AreaTree {
         /** Leaves the holder's rectangle as it is, since the holder may go next and need none. */
         void detach(int thing) {
             int holding = holder[thing];
+            if (holding == NO || size[holding] == 0) {
+                return;
+            }
             for (int i = indexIn(holding, thing) + 1; i < size[holding]; i++) {
                 placeAt(holding, i - 1, thingAt(holding, i));
             }
@@ -538,7 +553,7 @@ public final class AreaTree {
 
         private void splitUpwards(int from) {
             int at = from;
-            for (int depth = 0; depth < MOST_LEVELS && store.size[at] > store.most; depth++) {
+            for (int depth = 0; depth < MOST_LEVELS && at != NO && store.size[at] > store.most; depth++) {
                 int fresh = store.newNode(store.level[at]);
                 splits++;
                 splitter.share(at, fresh);
@@ -672,6 +687,9 @@ public final class AreaTree {
         }
 
         private int takeLeft(int index) {
+            if (index < 0 || index >= leftCount) {
+                return NOWHERE;
+            }
             int thing = left[index];
             leftCount--;
             for (int i = index; i < leftCount; i++) {
