@@ -40,6 +40,7 @@ public final class FormTest {
         classesInside();
         words(Files.readString(source));
         room();
+        neverThrows();
         System.out.println(wrong == 0 ? "the form is as due" : wrong + " faults of form");
         if (wrong != 0) {
             System.exit(1);
@@ -140,6 +141,43 @@ public final class FormTest {
         made = threads.getThreadAllocatedBytes(id) - before;
         if (made > 14_000 * 4L + 4000) {
             fault("the constructor made objects of " + made + " bytes");
+        }
+    }
+
+    /** Any arguments in any state: an exception would end the test. */
+    private static void neverThrows() {
+        int[] odd = {Integer.MIN_VALUE, -32768, -1, 0, 1, 3, 399, 404, 999, 1000, 32767, 32768, Integer.MAX_VALUE};
+        AreaTree[] trees = {new AreaTree(4, 2), new AreaTree(10, 5), new AreaTree(Integer.MIN_VALUE, Integer.MAX_VALUE)};
+        useAll(trees[1]);
+        for (AreaTree tree : trees) {
+            for (int a : odd) {
+                for (int b : odd) {
+                    askOddly(tree, a, b, odd);
+                }
+                tree.next();
+                tree.pack();
+            }
+            tree.clear();
+            askOddly(tree, 0, 0, odd);
+            if (!tree.audit()) {
+                fault("odd calls spoilt a tree");
+            }
+        }
+    }
+
+    private static void askOddly(AreaTree tree, int a, int b, int[] odd) {
+        tree.visited(a);
+        tree.count(a);
+        tree.node(a, b);
+        for (int c : odd) {
+            tree.held(a, b, c);
+            tree.nearest(a, b, c);
+            tree.window(a, b, c, a);
+            tree.next();
+            tree.countIn(a, c, b, c);
+            tree.insert(a, b, c, c, b);
+            tree.remove(c, b, a, a, b);
+            tree.insert(Math.floorMod(a, 1000), b, c, b, c);
         }
     }
 

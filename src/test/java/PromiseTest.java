@@ -1,54 +1,6 @@
-import java.lang.reflect.Field;
-
 /** Each promise of the document by cases worked out by hand: ordinary calls, the edges, wrong inputs. */
-public final class PromiseTest {
-    private static final int BAD = -1, NONE = -2;
+public final class PromiseTest extends Checks {
     private static final int[] WRONG = {Integer.MIN_VALUE, -2, -1, 9, 10, 400, Integer.MAX_VALUE};
-
-    private static int wrong = 0;
-    private static int promise = 0;
-
-    private static void due(String call, long got, long want) {
-        if (got != want) {
-            wrong++;
-            System.out.println("promise " + promise + ": " + call + " answered " + got + ", due is " + want);
-        }
-    }
-
-    private static void due(String call, boolean got, boolean want) {
-        due(call, got ? 1 : 0, want ? 1 : 0);
-    }
-
-    /** What node k holds, in order: ids or numbers. */
-    private static void holds(AreaTree tree, int k, int... due) {
-        due("node(" + k + ", 1)", tree.node(k, 1), due.length);
-        for (int i = 0; i < due.length; i++) {
-            due("held(" + k + ", " + i + ", 0)", tree.held(k, i, 0), due[i]);
-        }
-    }
-
-    private static void point(AreaTree tree, int id, int x, int y) {
-        tree.insert(id, x, y, x, y);
-    }
-
-    /** Leaf 1 has 1, 5 and 3 in (0, 0) to (1, 1), leaf 2 has 2 and 4 in (8, 8) to (9, 9). */
-    private static AreaTree twoLeaves() {
-        AreaTree tree = new AreaTree(4, 2);
-        point(tree, 1, 0, 0);
-        point(tree, 2, 9, 9);
-        point(tree, 3, 1, 1);
-        point(tree, 4, 8, 8);
-        point(tree, 5, 0, 1);
-        return tree;
-    }
-
-    private static AreaTree full() {
-        AreaTree tree = new AreaTree(10, 5);
-        for (int i = 0; i < 400; i++) {
-            tree.insert(i, i * 3, i * 5, i * 3 + 4, i * 5 + 4);
-        }
-        return tree;
-    }
 
     public static void main(String[] args) throws ReflectiveOperationException {
         newObject();
@@ -65,15 +17,12 @@ public final class PromiseTest {
         tellsVisited();
         packs();
         clears();
-        counts();
+        tellsCounts();
         tellsNodes();
         tellsHeld();
         audits();
         auditsBrokenTrees();
-        System.out.println(wrong == 0 ? "all answers are as due" : wrong + " answers are not as due");
-        if (wrong != 0) {
-            System.exit(1);
-        }
+        finish();
     }
 
     private static void bounds(int most, int least, int m, int n) {
@@ -83,7 +32,7 @@ public final class PromiseTest {
     }
 
     private static void newObject() {
-        promise = 1;
+        promise(1);
         bounds(4, 2, 4, 2);
         bounds(3, 1, 4, 2);
         bounds(11, 6, 10, 5);
@@ -106,7 +55,7 @@ public final class PromiseTest {
     }
 
     private static void insertAnswers() {
-        promise = 2;
+        promise(2);
         AreaTree tree = new AreaTree(4, 2);
         due("the first", tree.insert(0, 0, 0, 0, 0), 1);
         due("the last id, all places", tree.insert(999, 0, 0, 32767, 32767), 2);
@@ -138,7 +87,7 @@ public final class PromiseTest {
     }
 
     private static void insertChooses() {
-        promise = 2;
+        promise(2);
         AreaTree tree = twoLeaves();
         point(tree, 6, 5, 5);
         point(tree, 7, 4, 4);
@@ -179,16 +128,8 @@ public final class PromiseTest {
         holds(alike, 2, 5, 7, 8);
     }
 
-    private static AreaTree line(int... xs) {
-        AreaTree tree = new AreaTree(4, 2);
-        for (int i = 0; i < xs.length; i++) {
-            point(tree, i + 1, xs[i], 0);
-        }
-        return tree;
-    }
-
     private static void insertSplits() {
-        promise = 2;
+        promise(2);
         AreaTree tree = twoLeaves();
         holds(tree, 0, 1, 2);
         holds(tree, 1, 1, 5, 3);
@@ -228,7 +169,7 @@ public final class PromiseTest {
     }
 
     private static void removes() {
-        promise = 3;
+        promise(3);
         AreaTree tree = twoLeaves();
         due("another rectangle", tree.remove(2, 9, 9, 9, 10), NONE);
         due("another id", tree.remove(3, 9, 9, 9, 9), NONE);
@@ -259,15 +200,6 @@ public final class PromiseTest {
         removesDeep();
     }
 
-    private static AreaTree twentyPacked() {
-        AreaTree tree = new AreaTree(4, 2);
-        for (int i = 0; i < 20; i++) {
-            point(tree, i, i, 0);
-        }
-        tree.pack();
-        return tree;
-    }
-
     /** The last leaf and the node that holds it go; an entry, then a leaf are put again, each with a split. */
     private static void removesDeep() {
         AreaTree tree = twentyPacked();
@@ -291,7 +223,7 @@ public final class PromiseTest {
     }
 
     private static void opensWindow() {
-        promise = 4;
+        promise(4);
         AreaTree tree = twoLeaves();
         due("window", tree.window(0, 0, 9, 9), 0);
         due("next()", tree.next(), 1);
@@ -337,7 +269,7 @@ public final class PromiseTest {
     }
 
     private static void goesOn() {
-        promise = 5;
+        promise(5);
         AreaTree tree = twoLeaves();
         due("next(), none is open", tree.next(), BAD);
         tree.window(1, 1, 8, 8);
@@ -365,7 +297,7 @@ public final class PromiseTest {
     }
 
     private static void countsIn() {
-        promise = 6;
+        promise(6);
         AreaTree tree = twoLeaves();
         due("all", tree.countIn(0, 0, 32767, 32767), 5);
         due("one place", tree.countIn(1, 1, 1, 1), 1);
@@ -385,7 +317,7 @@ public final class PromiseTest {
     }
 
     private static void findsNearest() {
-        promise = 7;
+        promise(7);
         AreaTree tree = twoLeaves();
         int[] order = {1, 5, 3, 4, 2};
         int[] squares = {0, 1, 2, 128, 162};
@@ -425,7 +357,7 @@ public final class PromiseTest {
     }
 
     private static void tellsDistance() {
-        promise = 8;
+        promise(8);
         AreaTree tree = new AreaTree(4, 2);
         due("before all", tree.distance(), BAD);
         tree.nearest(0, 0, 0);
@@ -449,7 +381,7 @@ public final class PromiseTest {
     }
 
     private static void findsPairs() {
-        promise = 9;
+        promise(9);
         AreaTree tree = new AreaTree(4, 2);
         due("none", tree.pairs(), 0);
         tree.insert(1, 0, 0, 10, 10);
@@ -469,7 +401,7 @@ public final class PromiseTest {
     }
 
     private static void tellsVisited() {
-        promise = 10;
+        promise(10);
         AreaTree tree = twoLeaves();
         due("0, none is open", tree.visited(0), BAD);
         due("1, before nearest()", tree.visited(1), 0);
@@ -492,7 +424,7 @@ public final class PromiseTest {
     }
 
     private static void packs() {
-        promise = 11;
+        promise(11);
         AreaTree tree = new AreaTree(4, 2);
         due("no entry", tree.pack(), 1);
         for (int i = 0; i < 9; i++) {
@@ -537,7 +469,7 @@ public final class PromiseTest {
     }
 
     private static void clears() {
-        promise = 12;
+        promise(12);
         AreaTree tree = twoLeaves();
         tree.remove(2, 9, 9, 9, 9);
         due("clear()", tree.clear(), 4);
@@ -554,8 +486,8 @@ public final class PromiseTest {
         due("a full one", full().clear(), 400);
     }
 
-    private static void counts() {
-        promise = 13;
+    private static void tellsCounts() {
+        promise(13);
         AreaTree tree = twoLeaves();
         int[] before = {5, 2, 3, 1, 0, 0, 4, 2};
         for (int what = 0; what < 8; what++) {
@@ -574,7 +506,7 @@ public final class PromiseTest {
     }
 
     private static void tellsNodes() {
-        promise = 14;
+        promise(14);
         AreaTree tree = twoLeaves();
         int[][] due = {{1, 2, 0, 0, 9, 9, NONE}, {0, 3, 0, 0, 1, 1, 0}, {0, 2, 8, 8, 9, 9, 0}};
         for (int k = 0; k < 3; k++) {
@@ -603,7 +535,7 @@ public final class PromiseTest {
     }
 
     private static void tellsHeld() {
-        promise = 15;
+        promise(15);
         AreaTree tree = twoLeaves();
         tree.insert(6, 7, 6, 8, 9);
         int[][] due = {{2, 9, 9, 9, 9}, {4, 8, 8, 8, 8}, {6, 7, 6, 8, 9}};
@@ -629,7 +561,7 @@ public final class PromiseTest {
     }
 
     private static void audits() {
-        promise = 16;
+        promise(16);
         AreaTree tree = new AreaTree(5, 2);
         due("an empty tree", tree.audit(), true);
         for (int i = 0; i < 300; i++) {
@@ -646,10 +578,10 @@ public final class PromiseTest {
 
     /** No call breaks a tree, so that only a hand inside it can show that audit() looks at all. */
     private static void auditsBrokenTrees() throws ReflectiveOperationException {
-        promise = 16;
+        promise(16);
         for (String row : new String[] {"x1", "y1", "x2", "y2", "level", "size"}) {
             AreaTree tree = twoLeaves();
-            int[] values = row(tree, row);
+            int[] values = inStore(tree, row);
             int slot = ((int[]) inside(inside(tree, "tree"), "order"))[1];
             values[slot]++;
             due("audit() with another " + row, tree.audit(), false);
@@ -660,17 +592,11 @@ public final class PromiseTest {
         twice.insert(1, 5, 5, 6, 6);
         twice.insert(2, 5, 5, 6, 6);
         due("audit() of two", twice.audit(), true);
-        row(twice, "name")[1] = 1;
+        inStore(twice, "name")[1] = 1;
         due("audit() of one twice", twice.audit(), false);
     }
 
-    private static int[] row(AreaTree tree, String name) throws ReflectiveOperationException {
+    private static int[] inStore(AreaTree tree, String name) throws ReflectiveOperationException {
         return (int[]) inside(inside(tree, "store"), name);
-    }
-
-    private static Object inside(Object object, String name) throws ReflectiveOperationException {
-        Field field = object.getClass().getDeclaredField(name);
-        field.setAccessible(true);
-        return field.get(object);
     }
 }
