@@ -191,7 +191,9 @@ public final class PromiseBoundTest extends Checks {
 
         promise(3, "NONE: there is none such");
         int[] four = {4, 8, 8, 8, 8};
-        int[][] others = {{3, 8, 8, 8, 8}, {5, 8, 8, 8, 8}, {4, 7, 8, 8, 8}, {4, 8, 7, 8, 8}, {4, 8, 8, 9, 8}, {4, 8, 8, 8, 9}};
+        int[][] others = {
+            {3, 8, 8, 8, 8}, {5, 8, 8, 8, 8}, {4, 7, 8, 8, 8}, {4, 8, 7, 8, 8}, {4, 8, 8, 9, 8}, {4, 8, 8, 8, 9},
+        };
         for (int[] e : others) {
             unchanged(used, "alike but for one", () -> used.remove(e[0], e[1], e[2], e[3], e[4]), NONE);
         }
@@ -610,6 +612,7 @@ public final class PromiseBoundTest extends Checks {
         }
     }
 
+    /** Where both sums and x1 and y1 are alike, x2 and y2 are, too: no call can show their turn. */
     private static void packOrder() {
         promise(11, "ENTRIES by x1 and x2 together");
         // By their left ends, or then by their right ends, they would come the other way round.
@@ -647,11 +650,13 @@ public final class PromiseBoundTest extends Checks {
         nine(lefts, 1, 22, 23, 24, 25, 26, 27, 28, 29, 30);
 
         promise(11, "y1");
-        AreaTree lows = new AreaTree(4, 2);
-        for (int i = 0; i < 9; i++) {
-            lows.insert(7, 20, 30 - i, 40, 30 + i);
+        for (int x1 = 22; x1 <= 30; x1++) {
+            AreaTree lows = new AreaTree(4, 2);
+            for (int i = 0; i < 9; i++) {
+                lows.insert(7, x1, 30 - i, 60 - x1, 30 + i);
+            }
+            nine(lows, 2, 22, 23, 24, 25, 26, 27, 28, 29, 30);
         }
-        nine(lows, 2, 22, 23, 24, 25, 26, 27, 28, 29, 30);
 
         promise(11, "each SLICE then by y1 and y2 together, then as before");
         AreaTree slice = new AreaTree(4, 2);
@@ -664,7 +669,8 @@ public final class PromiseBoundTest extends Checks {
     }
 
     private static void packFillsLast() {
-        promise(11, "if the very last LEAF has less than N, the one before gives it its last ones, in order, before all of its own");
+        promise(11, "if the very last LEAF has less than N, the one before gives it its last ones, in order, "
+            + "before all of its own, till it has N");
         forAllBounds((most, least) -> {
             for (int last = 1; last <= most; last++) {
                 AreaTree tree = row(most, least, most + last);
@@ -811,7 +817,8 @@ public final class PromiseBoundTest extends Checks {
     }
 
     private static void node() {
-        promise(14, "Of a NODE: 0 its LEVEL, 1 how many it holds, 2 to 5 x1, y1, x2, y2, 6 the NODE that holds it (NONE: the root)");
+        promise(14, "Of a NODE: 0 its LEVEL, 1 how many it holds, 2 to 5 x1, y1, x2, y2, 6 the NODE that holds it "
+            + "(NONE: the root)");
         AreaTree tree = inUse();
         int[][] due = {{1, 2, 0, 0, 9, 9, NONE}, {0, 3, 0, 0, 1, 1, 0}, {0, 2, 8, 8, 9, 9, 0}};
         for (int k = 0; k < 3; k++) {

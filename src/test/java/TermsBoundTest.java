@@ -12,6 +12,7 @@ public final class TermsBoundTest extends Checks {
         placesAreBounded();
         areaHasItsEnds();
         areaBothWays();
+        areaOnEverySide();
         areaOfAllPlaces();
         meetingIsOnePlace();
         idsAreBounded();
@@ -59,7 +60,7 @@ public final class TermsBoundTest extends Checks {
 
     /** Ends with the call that is number 512 since the object was made. */
     private static void lastCall() {
-        sentence("what it is", "An object is used for at most 512 calls after it has been made");
+        sentence("promises 2 to 5 and 16, what it is", "An object is used for at most 512 calls after it has been made");
         AreaTree tree = new AreaTree(4, 2);
         for (int i = 0; i < 255; i++) {
             due("call " + (i + 1), tree.insert(i, i, i, i + 9, i + 9), i + 1);
@@ -102,7 +103,7 @@ public final class TermsBoundTest extends Checks {
     }
 
     private static void constants() {
-        sentence("the public face", "public static final int BAD = -1, NONE = -2");
+        sentence("promises 2 to 15, the public face", "public static final int BAD = -1, NONE = -2");
         due("BAD", AreaTree.BAD, -1);
         due("NONE", AreaTree.NONE, -2);
     }
@@ -194,6 +195,46 @@ public final class TermsBoundTest extends Checks {
         holds(column, 7, 9, 10, 11);
         rectangle(column, 1, 0, 0, 0, 8);
         rectangle(column, 5, 0, 9, 0, 13);
+    }
+
+    /**
+     * A column of ten places and, beyond it, a row of ten: with the place between them the column's
+     * rectangle would grow by 81 and the row's by 60, though the place lies nearer to the column.
+     */
+    private static void areaOnEverySide() {
+        sentence("promise 2, RECTANGLE", "its AREA is how many places it has, on whichever side it grows");
+        int[][] things = {{0, 0}, {0, 3}, {0, 5}, {0, 9}, {1, 18}, {4, 18}, {6, 18}, {10, 18}, {6, 12}};
+        for (int way = 0; way < 4; way++) {
+            AreaTree tree = new AreaTree(4, 2);
+            for (int id = 0; id < 8; id++) {
+                int[] at = turned(things[id], way);
+                point(tree, id, at[0], at[1]);
+            }
+            tree.pack();
+            for (int id = 2; id <= 6; id += 4) {
+                int[] at = turned(things[id], way);
+                tree.remove(id, at[0], at[1], at[0], at[1]);
+            }
+            int[] between = turned(things[8], way);
+            point(tree, 8, between[0], between[1]);
+            int row = way == 2 ? 1 : 2;
+            holds(tree, row, 4, 5, 7, 8);
+            due("the column holds", tree.node(3 - row, 1), 3);
+        }
+    }
+
+    private static int[] turned(int[] place, int way) {
+        int x = place[0], y = place[1];
+        switch (way) {
+            case 0:
+                return new int[] {x, y};
+            case 1:
+                return new int[] {y, x};
+            case 2:
+                return new int[] {x, 30 - y};
+            default:
+                return new int[] {30 - y, x};
+        }
     }
 
     /** Areas of 2^30 each: two of them together would leave an int. */
@@ -843,6 +884,7 @@ public final class TermsBoundTest extends Checks {
         due("visited(1)", tree.visited(1), 2);
     }
 
+    /** Where ids and distances are alike, nearest() answers alike, so that no call shows the turn of x1 to y2. */
     private static void entriesByIds() {
         sentence("promise 7, NEAREST", "ENTRIES by ids");
         AreaTree tree = new AreaTree(10, 2);
